@@ -237,10 +237,14 @@ public final class ChangeDoors {
     public long sure(int hosts, int door, int part) {
         if (!areHosts(hosts) || !stage.has(door) || !isPart(part) && part != 2) return REFUSED;
         if (stage.together() == 0) return NOT;
-        long stays = chances.leastWorth(hosts, STAYING, door);
-        long changes = chances.leastWorth(hosts, CHANGING_LAST, door);
-        if (part == 2) return changes > stays ? 1 : 0;
-        return lowest(Math.max(stays, changes), stage.wholeWorth(), part);
+        // staying is worth the same against each of them
+        long staying = chances.worthOf(stage.host, STAYING, door);
+        long changing = stage.wholeWorth();
+        for (int host = 0; host < MOST_HOSTS; host++) {
+            if (isIn(hosts, host)) changing = Math.min(changing, chances.worthOf(host, CHANGING_LAST, door));
+        }
+        if (part == 2) return changing > staying ? 1 : 0;
+        return lowest(Math.max(staying, changing), stage.wholeWorth(), part);
     }
 
     public long hardest(int hosts, int part) {
@@ -308,13 +312,16 @@ public final class ChangeDoors {
         return share;
     }
 
+    /** How much of a host's first act such an evening is; 0, if there is no such evening. */
     private long shareOfThree(int shelf, int three, int host) {
         int at = 3 * three;
         if (!shelves.hasPlaces(shelf, at, 3)) return 0;
         int chosen = (int) shelves.at(shelf, at);
         int opened = (int) shelves.at(shelf, at + 1);
         int cow = (int) shelves.at(shelf, at + 2);
-        return chances.firstShare(host, chosen, opened, cow);
+        if (!stage.has(chosen) || !stage.has(cow) || opened == chosen) return 0;
+        if (opened != NONE && !stage.has(opened)) return 0;
+        return chances.shareOf(host, 0, 0, chosen, opened, cow);
     }
 
     public int apart(int gh, int cox) {
@@ -325,7 +332,7 @@ public final class ChangeDoors {
         int opened = cox / 10 % 10;
         int cow = cox % 10;
         if (!stage.has(chosen) || !stage.has(opened) || !stage.has(cow) || opened == chosen) return BAD;
-        return timesTill(chances.firstShare(g, chosen, opened, cow), chances.firstShare(h, chosen, opened, cow));
+        return timesTill(chances.shareOf(g, 0, 0, chosen, opened, cow), chances.shareOf(h, 0, 0, chosen, opened, cow));
     }
 
     /** How many evenings alike till the one share, multiplied, is 12 times the other. */
@@ -349,7 +356,13 @@ public final class ChangeDoors {
         if (evenings < 1 || evenings > MOST_DRAWN) return BAD;
         if (way < STAYING || way > CHANGING_EACH || what < 0 || what > 1) return BAD;
         if (stage.together() == 0) return STATE;
-        return draws.howOften(seed, evenings, way, evening.chosen, what == 0 ? WON : SEEN);
+        int end = what == 0 ? WON : SEEN;
+        int often = 0;
+        draws.begin(seed);
+        for (int k = 0; k < evenings; k++) {
+            if (draws.endOfOne(way, evening.chosen) == end) often++;
+        }
+        return often;
     }
 
     public int code(int door, int v) {
@@ -1003,7 +1016,7 @@ public final class ChangeDoors {
         }
 
         /** The share of an act in which a host opens just that door, or NONE. */
-        private long shareOf(int host, int act, int open, int chosen, int opened, int cow) {
+        long shareOf(int host, int act, int open, int chosen, int opened, int cow) {
             if (!isHost(host)) return 0;
             int openDoors = Integer.bitCount(open);
             long share = 1;
@@ -1019,13 +1032,6 @@ public final class ChangeDoors {
                 share *= looks ? TWELVE - twelfths : twelfths;
             }
             return share;
-        }
-
-        /** Of an evening's first act; 0, if there is no such evening. */
-        long firstShare(int host, int chosen, int opened, int cow) {
-            if (!stage.has(chosen) || !stage.has(cow) || opened == chosen) return 0;
-            if (opened != NONE && !stage.has(opened)) return 0;
-            return shareOf(host, 0, 0, chosen, opened, cow);
         }
 
         /** Weighs where the cow may be by all acts told; 0, if it cannot have come so. */
@@ -1075,22 +1081,26 @@ public final class ChangeDoors {
             if (!isHost(host) || !stage.has(door)) return 0;
             // nobody opens the chosen one, so that staying wins as often as the cow is there
             if (way == STAYING) return stage.weight[door] * stage.wholeActs();
-            for (int cow = 0; cow < stage.doors; cow++) shares[0][cow] = stage.weight[cow];
+            layShares();
             return hostActs(laws[host], way, 0, 0, door);
+        }
+
+        private void layShares() {
+            for (int cow = 0; cow < stage.doors; cow++) shares[0][cow] = stage.weight[cow];
         }
 
         long greatestWorth(int host) {
             if (!isHost(host)) return 0;
-            if (greatestAge[host] != stage.age) {
-                greatest[host] = NONE;
-                for (int door = 0; door < stage.doors; door++) {
-                    long worth = worthOf(host, AS_IS_BEST, door);
-                    if (worth > greatest[host]) {
-                        greatest[host] = worth;
-                        first[host] = door;
-                    }
+            if (greatestAge[host] == stage.age) return greatest[host];
+            greatestAge[host] = stage.age;
+            greatest[host] = NONE;
+            layShares();
+            for (int door = 0; door < stage.doors; door++) {
+                long worth = hostActs(laws[host], AS_IS_BEST, 0, 0, door);
+                if (worth > greatest[host]) {
+                    greatest[host] = worth;
+                    first[host] = door;
                 }
-                greatestAge[host] = stage.age;
             }
             return greatest[host];
         }
@@ -1098,14 +1108,6 @@ public final class ChangeDoors {
         /** The door chosen first in what greatestWorth found. */
         int firstDoor(int host) {
             return isHost(host) ? first[host] : 0;
-        }
-
-        long leastWorth(int hosts, int way, int door) {
-            long least = stage.wholeWorth();
-            for (int host = 0; host < MOST_HOSTS; host++) {
-                if (isIn(hosts, host)) least = Math.min(least, worthOf(host, way, door));
-            }
-            return least;
         }
 
         /** The host's act number 'act', then all that comes behind it, over each door that he may open. */
@@ -1154,19 +1156,16 @@ public final class ChangeDoors {
 
         /** The guest stays or changes behind an act; then the next one, or the end. */
         private long guestActs(Law law, int way, int act, int open, int chosen) {
-            if (way == AS_IS_BEST) return guestFindsBest(law, act, open);
             boolean isEnd = act >= stage.acts;
-            boolean changes = way == CHANGING_EACH || way == CHANGING_LAST && isEnd;
-            int door = changes ? stage.leastOther(open, chosen) : chosen;
-            return isEnd ? shares[act][door] : hostActs(law, way, act, open, door);
-        }
-
-        private long guestFindsBest(Law law, int act, int open) {
-            boolean isEnd = act >= stage.acts;
+            if (way != AS_IS_BEST) {
+                boolean changes = way == CHANGING_EACH || way == CHANGING_LAST && isEnd;
+                int door = changes ? stage.leastOther(open, chosen) : chosen;
+                return isEnd ? shares[act][door] : hostActs(law, way, act, open, door);
+            }
             long best = 0;
             for (int door = 0; door < stage.doors; door++) {
                 if (isIn(open, door)) continue;
-                best = Math.max(best, isEnd ? shares[act][door] : hostActs(law, AS_IS_BEST, act, open, door));
+                best = Math.max(best, isEnd ? shares[act][door] : hostActs(law, way, act, open, door));
             }
             return best;
         }
@@ -1183,16 +1182,11 @@ public final class ChangeDoors {
             chances = by;
         }
 
-        int howOften(int seed, int evenings, int way, int chosen, int end) {
+        void begin(int seed) {
             z = seed;
-            int often = 0;
-            for (int k = 0; k < evenings; k++) {
-                if (endOfOne(way, chosen) == end) often++;
-            }
-            return often;
         }
 
-        private int endOfOne(int way, int first) {
+        int endOfOne(int way, int first) {
             int cow = drawCow();
             int open = 0;
             int chosen = first;

@@ -14,7 +14,7 @@ public final class AgainstPlainTest {
         "next", "worth", "theBest", "sure", "hardest", "which", "judge", "apart", "drawn", "code", "partner", "win",
         "led", "image", "back", "undo", "redo", "body", "act", "trace", "keep", "row", "put", "element", "shift",
         "taken", "count"};
-    /** How often a call comes; those not named here: 10 times. */
+    /** How often a call comes; those not named here: 10 times. Each run turns some up and some down. */
     private static final Map<String, Integer> OFTEN = new HashMap<>();
 
     static {
@@ -75,17 +75,18 @@ public final class AgainstPlainTest {
 
     private boolean isAlike(Map<String, Method> reals, Map<String, Method> plains) throws Exception {
         int sum = 0;
-        for (String name : NAMES) sum += OFTEN.getOrDefault(name, 10);
+        int[] often = new int[NAMES.length];
+        for (int k = 0; k < NAMES.length; k++) {
+            often[k] = OFTEN.getOrDefault(NAMES[k], 10) * new int[] {1, 5, 5, 5, 20}[r.nextInt(5)];
+            sum += often[k];
+        }
         if (heavy && !isCallAlike(reals.get("doors"), plains.get("doors"), a(5))) return false;
         while (calls < CALLS) {
             int at = r.nextInt(sum);
             String name = null;
-            for (String one : NAMES) {
-                at -= OFTEN.getOrDefault(one, 10);
-                if (at < 0) {
-                    name = one;
-                    break;
-                }
+            for (int k = 0; k < NAMES.length && name == null; k++) {
+                at -= often[k];
+                if (at < 0) name = NAMES[k];
             }
             if (name.equals("law") && !isTapeAlike(reals, plains)) return false;
             if (name.equals("which") && r.nextInt(2) == 0 && !isBookAlike(reals, plains)) return false;

@@ -212,6 +212,8 @@ public final class PromisesTest {
         while (longest.length() < 118) longest.append("d*");
         due("120 bytes", law(x, 0, longest + "d*"), -220);
         due("120 bytes", law(x, 0, "!" + longest + "d"), 1);
+        due("the longest", law(x, 0, "!" + longest.toString().replace("d*", "x+") + "x"), 1);
+        due("all of it counts", x.opens(10), 1);
     }
 
     private static void promise7() {
@@ -514,6 +516,8 @@ public final class PromisesTest {
         law(y, 0, "c=1&x=2?0;c=1&d=0?12;0");
         ratio("from 1 alone", y.theBest(0), y.theBest(1), 2, 3);
         due("from 1 alone", y.theBest(2), 1);
+        law(y, 0, "d=x?12;0");
+        ratio("he opens the cow's door: nobody wins it then", y.theBest(0), y.theBest(1), 1, 3);
         for (int d = 0; d < 5; d++) x.mend(d, 0, 0);
         for (int part = 0; part < 3; part++) due("NOT", x.theBest(part), -2);
         due("BAD is named first", x.theBest(3), NO);
@@ -861,6 +865,40 @@ public final class PromisesTest {
         x.doors(3);
         due("doors() ends them", x.redo(), -5);
         due("doors() ends them", x.undo(), -5);
+        manyChanges();
+    }
+
+    /** Unlike changes, more than are kept: each step back and forth is as it was. */
+    private static void manyChanges() {
+        ChangeDoors x = new ChangeDoors();
+        x.doors(5);
+        int most = 57;
+        int[][] states = new int[most + 1][];
+        states[0] = settings(x);
+        for (int k = 0; k < most; k++) {
+            if (k % 7 == 3) x.mend(0, 1, (x.of(0, 20) + 1 + k % 3) % 4);
+            else if (k % 7 == 5) x.mend(0, 2, x.of(0, 21) % 3 + 1);
+            else x.mend(k % 5, 0, (x.of(k % 5, 0) + 1 + k % 12) % 13);
+            states[k + 1] = settings(x);
+        }
+        due("40 are kept", x.count(4), 40);
+        for (int round = 0; round < 2; round++) {
+            for (int k = 1; k <= 40; k++) {
+                due("undo()", x.undo(), 40 - k);
+                due("as it was, " + k + " back", java.util.Arrays.equals(settings(x), states[most - k]) ? 1 : 0, 1);
+            }
+            due("undo()", x.undo(), -5);
+            for (int k = 39; k >= 0; k--) {
+                due("redo()", x.redo(), k);
+                due("as it was, " + k + " to come", java.util.Arrays.equals(settings(x), states[most - k]) ? 1 : 0, 1);
+            }
+            due("redo()", x.redo(), -5);
+        }
+    }
+
+    private static int[] settings(ChangeDoors x) {
+        int[] all = {x.of(0, 0), x.of(1, 0), x.of(2, 0), x.of(3, 0), x.of(4, 0), x.of(0, 20), x.of(0, 21)};
+        return all;
     }
 
     private static void actsAndShelves() {
